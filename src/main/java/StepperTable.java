@@ -19,22 +19,21 @@ public final class StepperTable {
     private static final int MOST_CHANGES = 10;
     private static final int MOST_START = 1000;
     private static final int MOST_JOG = 100;
-    private static final int INPUT_SIZE = 600;
-    private static final int OUTPUT_SIZE = 240;
+    private static final int MOST_BYTES = 600;
+    private static final int CALL_BYTES = 20;
     private static final int ROOT_ROUNDS = 60;
     private static final int START_STEP = 50;
     private static final int SECOND = 1000000;
     private static final int FORWARD = 1;
     private static final int BACKWARD = -1;
     private static final int NOT_STUCK = 0;
-    private static final int STUCK_OPEN = 1;
     private static final int STUCK_CLOSED = 2;
     private static final int NO_ALARM = 0;
     private static final int ALARM_NEVER_CLOSED = 1;
     private static final int ALARM_NEVER_OPEN = 2;
     private static final int ALARM_LOST = 3;
 
-    private final Input input = new Input();
+    private final Bytes input = new Bytes();
     private final Setup setup = new Setup();
     private final Table table = new Table();
     private final Table saved = new Table();
@@ -42,7 +41,7 @@ public final class StepperTable {
     private final History history = new History();
     private final Plan plan = new Plan();
     private final Targets path = new Targets();
-    private final Output output = new Output();
+    private final Bytes output = new Bytes();
     private boolean hasSaved;
 
     public StepperTable() {
@@ -54,7 +53,7 @@ public final class StepperTable {
     // ---- setup ----
 
     public int appendInput(int a, int b, int c, int d, int e) {
-        if (input.length + 20 > INPUT_SIZE) {
+        if (input.length > MOST_BYTES - CALL_BYTES) {
             return -1;
         }
         input.addWord(a);
@@ -81,7 +80,7 @@ public final class StepperTable {
         }
         table.setUp(setup);
         history.clear();
-        output.clear();
+        output.length = 0;
         hasSaved = false;
         return table.x.length + table.y.length + table.z.length;
     }
@@ -552,7 +551,7 @@ public final class StepperTable {
 
     public int printQueue() {
         Targets targets = table.targets;
-        output.clear();
+        output.length = 0;
         if (targets.size == 0) {
             output.addByte('.');
         }
@@ -699,11 +698,19 @@ public final class StepperTable {
         return divisor > 0.0 ? dividend / divisor : 0.0;
     }
 
-    /** The bytes of the setup text. */
-    private static final class Input {
-        final byte[] bytes = new byte[INPUT_SIZE];
+    /** A row of bytes: the setup text, or what was printed last. */
+    private static final class Bytes {
+        final byte[] row = new byte[MOST_BYTES];
         int length;
 
+        void addByte(int value) {
+            if (length >= 0 && length < row.length) {
+                row[length] = (byte) value;
+                length++;
+            }
+        }
+
+        /** Adds four bytes, the most significant one first. */
         void addWord(int word) {
             addByte(word >>> 24);
             addByte(word >>> 16);
@@ -711,36 +718,7 @@ public final class StepperTable {
             addByte(word);
         }
 
-        void addByte(int value) {
-            if (length >= 0 && length < bytes.length) {
-                bytes[length] = (byte) value;
-                length++;
-            }
-        }
-
-        /** The byte as 0 to 255; -1 behind the end. */
-        int byteAt(int index) {
-            return index >= 0 && index < length && index < bytes.length ? bytes[index] & 255 : -1;
-        }
-    }
-
-    /** The bytes that were printed last. */
-    private static final class Output {
-        final byte[] bytes = new byte[OUTPUT_SIZE];
-        int length;
-
-        void clear() {
-            length = 0;
-        }
-
-        void addByte(int value) {
-            if (length >= 0 && length < bytes.length) {
-                bytes[length] = (byte) value;
-                length++;
-            }
-        }
-
-        /** Adds a number of 0 to 9999. */
+        /** Adds the digits of a number of 0 to 9999. */
         void addNumber(int number) {
             for (int unit = 1000; unit >= 1; unit /= 10) {
                 if (number >= unit || unit == 1) {
@@ -749,8 +727,9 @@ public final class StepperTable {
             }
         }
 
+        /** The byte as 0 to 255; -1 if there is none. */
         int byteAt(int index) {
-            return index >= 0 && index < length && index < bytes.length ? bytes[index] & 255 : -1;
+            return index >= 0 && index < length && index < row.length ? row[index] & 255 : -1;
         }
     }
 
@@ -783,9 +762,9 @@ public final class StepperTable {
             return (seen >> statement & 1) == 1;
         }
 
-        void parse(Input text) {
+        void parse(Bytes text) {
             forget();
-            for (int n = 0; n < INPUT_SIZE && code == NO_ERROR && findToken(text); n++) {
+            for (int n = 0; n < MOST_BYTES && code == NO_ERROR && findToken(text); n++) {
                 readStatement(text);
             }
         }
@@ -805,14 +784,14 @@ public final class StepperTable {
         }
 
         /** Goes on to the next token; answers whether there is one. */
-        private boolean findToken(Input text) {
+        private boolean findToken(Bytes text) {
             while (place < text.length && isBlank(text.byteAt(place))) {
                 place++;
             }
             return place < text.length;
         }
 
-        private void readStatement(Input text) {
+        private void readStatement(Bytes text) {
             int from = place;
             int statement = readWord(text);
             if (statement < 0) {
@@ -834,7 +813,7 @@ public final class StepperTable {
         }
 
         /** Answers the number of the statement that the word begins, -1 if there is none. */
-        private int readWord(Input text) {
+        private int readWord(Bytes text) {
             int from = place;
             while (place < text.length && isLetter(text.byteAt(place))) {
                 place++;
@@ -847,7 +826,7 @@ public final class StepperTable {
             return -1;
         }
 
-        private void readNumber(Input text, int statement, int slot) {
+        private void readNumber(Bytes text, int statement, int slot) {
             findToken(text);
             int from = place;
             int value = 0;
@@ -865,7 +844,7 @@ public final class StepperTable {
             }
         }
 
-        private void readSemicolon(Input text) {
+        private void readSemicolon(Bytes text) {
             findToken(text);
             if (text.byteAt(place) == ';') {
                 place++;
@@ -935,7 +914,7 @@ public final class StepperTable {
             }
         }
 
-        private static boolean isWord(Input text, int from, int end, String word) {
+        private static boolean isWord(Bytes text, int from, int end, String word) {
             if (end - from != word.length()) {
                 return false;
             }

@@ -647,6 +647,10 @@ public final class PromisesTest {
         Check.due("24 behind the slow one", t.move(1, 3), 7);
         Check.due("24 behind one that z still limits", t.move(2, 3), 7);
         Check.due("24 up again", t.move(3, 3), 17);
+        StepperTable early = Tables.homed("x 200 0 5000 10 5 2; z 200 0 7 3 5 2; start 50;");
+        early.queue(2, 0, 0);
+        early.queue(2, 0, 1);
+        Check.due("24 even the first speed is made smaller", early.move(0, 3), 7 + 10 * 2);
     }
 
     private static void promise25() {
@@ -1225,6 +1229,10 @@ public final class PromisesTest {
     private static void promise57() {
         StepperTable t = smallWithQueue();
         Check.due("57 none", t.meanDuration(), 0.0);
+        StepperTable one = small();
+        one.queue(1, 0, 0);
+        one.runAll();
+        Check.due("57 one", one.meanDuration(), 10000.0);
         t.run(1);
         Check.due("57 ten", t.meanDuration(), 2928.8);
         t.setCompensation(true);
