@@ -24,6 +24,13 @@ public final class StepperTable {
     private static final int ROOT_ROUNDS = 60;
     private static final int START_STEP = 50;
     private static final int SECOND = 1000000;
+    private static final int USUAL_LENGTH = 200;
+    private static final int USUAL_BACKLASH = 0;
+    private static final int USUAL_TOP = 1000;
+    private static final int USUAL_ACCELERATION = 100;
+    private static final int USUAL_SWITCH = 5;
+    private static final int USUAL_HYSTERESIS = 2;
+    private static final int USUAL_START = 100;
     private static final int FORWARD = 1;
     private static final int BACKWARD = -1;
     private static final int NOT_STUCK = 0;
@@ -44,10 +51,8 @@ public final class StepperTable {
     private final Bytes output = new Bytes();
     private boolean hasSaved;
 
+    /** What is inside begins as an empty text would leave it. */
     public StepperTable() {
-        setup.parse(input);
-        table.setUp(setup);
-        hasSaved = false;
     }
 
     // ---- setup ----
@@ -742,7 +747,6 @@ public final class StepperTable {
         static final int DETECT = 6;
         static final int STATEMENTS = 7;
         static final int SWITCH_POSITION = 4;
-        static final int[] USUAL = {200, 0, 1000, 100, 5, 2};
         static final int[] LEAST = {1, 0, 1, 1, 0, 0};
         static final int[] GREATEST = {2000, 20, 5000, 500, 2000, 20};
 
@@ -772,11 +776,14 @@ public final class StepperTable {
         private void forget() {
             for (int axis = 0; axis < AXES; axis++) {
                 enter(begins, axis, 0);
-                for (int slot = 0; slot < NUMBERS; slot++) {
-                    enter(numbers, axis * NUMBERS + slot, entry(USUAL, slot));
-                }
+                keep(axis, 0, USUAL_LENGTH);
+                keep(axis, 1, USUAL_BACKLASH);
+                keep(axis, 2, USUAL_TOP);
+                keep(axis, 3, USUAL_ACCELERATION);
+                keep(axis, SWITCH_POSITION, USUAL_SWITCH);
+                keep(axis, 5, USUAL_HYSTERESIS);
             }
-            start = 100;
+            start = USUAL_START;
             seen = 0;
             code = NO_ERROR;
             offset = -1;
@@ -989,17 +996,17 @@ public final class StepperTable {
 
     /** An axis: its motor, its table between the end stops, and its switch. */
     private static final class Axis {
-        int length;
-        int backlash;
-        int top;
-        int acceleration;
-        int switchPosition;
-        int hysteresis;
+        int length = USUAL_LENGTH;
+        int backlash = USUAL_BACKLASH;
+        int top = USUAL_TOP;
+        int acceleration = USUAL_ACCELERATION;
+        int switchPosition = USUAL_SWITCH;
+        int hysteresis = USUAL_HYSTERESIS;
         int truePosition;
         int slack;
-        int direction;
-        int stuck;
-        boolean closed;
+        int direction = FORWARD;
+        int stuck = NOT_STUCK;
+        boolean closed = true;
         boolean homed;
         int coordinate;
         int zero;
@@ -1249,7 +1256,7 @@ public final class StepperTable {
         final Axis y = new Axis();
         final Axis z = new Axis();
         final Targets targets = new Targets();
-        int start;
+        int start = USUAL_START;
         boolean compensation;
         boolean detection;
         int alarm;
