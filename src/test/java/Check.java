@@ -7,15 +7,21 @@ final class Check {
 
     private static int wrong = 0;
     private static int asked = 0;
+    private static String place = "";
 
     private Check() {
+    }
+
+    /** Names what the answers behind this belong to; it is told with those that are not due. */
+    static void at(String where) {
+        place = where.isEmpty() ? "" : where + "\n    ";
     }
 
     static void due(String what, Object got, Object want) {
         asked++;
         if (!want.equals(got)) {
             wrong++;
-            System.out.println(what + " answered " + got + ", due is " + want);
+            System.out.println(place + what + " answered " + got + ", due is " + want);
         }
     }
 

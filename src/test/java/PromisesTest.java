@@ -11,42 +11,6 @@ public final class PromisesTest {
     private PromisesTest() {
     }
 
-    private static StepperTable small() {
-        return Tables.homed(Tables.SMALL);
-    }
-
-    /** Homed, with two moves that go on straight: to 10, 5, 0 and to 20, 10, 0. */
-    private static StepperTable smallWithQueue() {
-        StepperTable t = small();
-        t.queue(10, 5, 0);
-        t.queue(20, 10, 0);
-        return t;
-    }
-
-    /** A table with an alarm 1, axis y being stuck open. */
-    private static StepperTable alarmed() {
-        StepperTable t = small();
-        t.setStuck(1, 1);
-        t.home(1);
-        return t;
-    }
-
-    /** Homed with 16 targets. */
-    private static StepperTable full() {
-        StepperTable t = small();
-        for (int i = 1; i <= 16; i++) {
-            t.queue(i, 0, 0);
-        }
-        return t;
-    }
-
-    /** Compensation is off and the axis x, homed at 8, would run into its end stop at 100. */
-    private static StepperTable losing() {
-        StepperTable t = small();
-        t.queue(95, 0, 0);
-        return t;
-    }
-
     private static void noAxis(String what, java.util.function.IntFunction<Object> call) {
         for (int axis : NO_AXES) {
             Check.dueThrow(what + " of axis " + axis, NO_INDEX, () -> call.apply(axis));
@@ -119,7 +83,7 @@ public final class PromisesTest {
     }
 
     private static void promise04() {
-        StepperTable t = smallWithQueue();
+        StepperTable t = Tables.smallWithQueue();
         t.setStuck(0, 1);
         t.saveState();
         t.printQueue();
@@ -148,7 +112,7 @@ public final class PromisesTest {
         Check.due("4 direction", t.axis(0, 12), 1);
         Check.due("4 output", t.outputByte(0), -1);
         Check.dueThrow("4 nothing saved", NO_STATE, t::restoreState);
-        StepperTable alarmed = alarmed();
+        StepperTable alarmed = Tables.alarmed();
         Tables.load(alarmed, "");
         Check.due("4 no alarm", alarmed.count(3), 0);
         Check.due("4 greatest", Tables.load(t, "x 2000 20 5000 500 2000 20;y 2000 0 1 1 0 0;z 1 0 1 1 1 0;"), 4001);
@@ -239,14 +203,14 @@ public final class PromisesTest {
         for (int what = 0; what <= 6; what++) {
             Check.due("7 later " + what, t.count(what), later[what]);
         }
-        Check.due("7 alarm", alarmed().count(3), 1);
+        Check.due("7 alarm", Tables.alarmed().count(3), 1);
         for (int what : new int[] {-1, 7, Integer.MIN_VALUE, Integer.MAX_VALUE}) {
             Check.dueThrow("7 " + what, NO_ARGUMENT, () -> t.count(what));
         }
     }
 
     private static void promise08() {
-        StepperTable t = small();
+        StepperTable t = Tables.small();
         int[] x = {100, 3, 1000, 100, 5, 2, 8, 3, 3, 0, 0, 1, 1};
         int[] y = {50, 1, 500, 50, 2, 2, 5, 1, 6, 0, 0, 1, 1};
         for (int what = 0; what <= 12; what++) {
@@ -266,7 +230,7 @@ public final class PromisesTest {
     }
 
     private static void promise09() {
-        StepperTable t = smallWithQueue();
+        StepperTable t = Tables.smallWithQueue();
         Check.due("9 homed", t.coordinate(0), 0);
         t.run(1);
         Check.due("9 x", t.coordinate(0), 10);
@@ -281,13 +245,13 @@ public final class PromisesTest {
     }
 
     private static void promise10() {
-        StepperTable t = small();
+        StepperTable t = Tables.small();
         Check.due("10 homed", t.error(0), 0);
         t.queue(10, 0, 0);
         t.queue(5, 0, 0);
         t.runAll();
         Check.due("10 backlash", t.error(0), 3);
-        StepperTable losing = losing();
+        StepperTable losing = Tables.losing();
         losing.runAll();
         Check.due("10 lost", losing.error(0), -3);
         losing.reset();
@@ -361,7 +325,7 @@ public final class PromisesTest {
         Check.due("13 alarm 1", t.count(3), 1);
         Check.due("13 lost steps are no alarm 3", t.axis(0, 9) > 0, true);
         noAxis("13 with an alarm", axis -> t.home(axis));
-        StepperTable queued = smallWithQueue();
+        StepperTable queued = Tables.smallWithQueue();
         Check.dueThrow("13 queue", NO_STATE, () -> queued.home(0));
         Check.due("13 nothing changed", queued.count(6), 3);
         StepperTable open = Tables.loaded("x 9 0 1 1 0 0; begin 5 0 0; detect;");
@@ -379,7 +343,7 @@ public final class PromisesTest {
     }
 
     private static void promise14() {
-        StepperTable t = small();
+        StepperTable t = Tables.small();
         Check.due("14 back through the slack", t.jog(0, -3), 8);
         Check.due("14 back", t.jog(0, -2), 6);
         Check.due("14 to the stop", t.jog(0, -100), 0);
@@ -394,10 +358,10 @@ public final class PromisesTest {
         for (int steps : new int[] {0, 101, -101, Integer.MIN_VALUE, Integer.MAX_VALUE}) {
             Check.dueThrow("14 " + steps, NO_ARGUMENT, () -> t.jog(0, steps));
         }
-        StepperTable queued = smallWithQueue();
+        StepperTable queued = Tables.smallWithQueue();
         Check.dueThrow("14 queue", NO_STATE, () -> queued.jog(0, 1));
         Check.dueThrow("14 steps ahead of the queue", NO_ARGUMENT, () -> queued.jog(0, 0));
-        StepperTable alarmed = alarmed();
+        StepperTable alarmed = Tables.alarmed();
         Check.due("14 alarm", alarmed.jog(2, 1), 9);
         Check.due("14 the alarm stays", alarmed.count(3), 1);
         StepperTable detecting = Tables.loaded("detect;");
@@ -406,7 +370,7 @@ public final class PromisesTest {
     }
 
     private static void promise15() {
-        StepperTable t = small();
+        StepperTable t = Tables.small();
         Check.due("15 first", t.queue(0, 0, 20), 1);
         Check.due("15 second", t.queue(100, 50, 20), 2);
         Check.due("15 kept", t.target(1, 1), 50);
@@ -416,10 +380,10 @@ public final class PromisesTest {
             Check.dueThrow("15 point", NO_ARGUMENT, () -> t.queue(p[0], p[1], p[2]));
         }
         Check.due("15 nothing changed", t.count(6), 3);
-        Check.dueThrow("15 where the axes are", NO_STATE, () -> small().queue(0, 0, 0));
-        Check.dueThrow("15 full", NO_STATE, () -> full().queue(50, 0, 0));
-        Check.dueThrow("15 full, and out of range", NO_ARGUMENT, () -> full().queue(101, 0, 0));
-        Check.dueThrow("15 alarm", NO_STATE, () -> alarmed().queue(1, 1, 1));
+        Check.dueThrow("15 where the axes are", NO_STATE, () -> Tables.small().queue(0, 0, 0));
+        Check.dueThrow("15 full", NO_STATE, () -> Tables.full().queue(50, 0, 0));
+        Check.dueThrow("15 full, and out of range", NO_ARGUMENT, () -> Tables.full().queue(101, 0, 0));
+        Check.dueThrow("15 alarm", NO_STATE, () -> Tables.alarmed().queue(1, 1, 1));
         StepperTable two = Tables.loaded(Tables.SMALL);
         two.home(0);
         two.home(1);
@@ -428,7 +392,7 @@ public final class PromisesTest {
     }
 
     private static void promise16() {
-        StepperTable t = smallWithQueue();
+        StepperTable t = Tables.smallWithQueue();
         Check.due("16 one is left", t.unqueue(), 1);
         Check.due("16 the first one", t.target(0, 0), 10);
         Check.due("16 none is left", t.unqueue(), 0);
@@ -440,7 +404,7 @@ public final class PromisesTest {
     }
 
     private static void promise17() {
-        StepperTable t = smallWithQueue();
+        StepperTable t = Tables.smallWithQueue();
         long before = t.time();
         Check.due("17 first", t.run(1), 1);
         Check.due("17 as planned for the whole queue", t.time() - before, 29288L);
@@ -453,14 +417,14 @@ public final class PromisesTest {
             Check.dueThrow("17 " + moves, NO_ARGUMENT, () -> t.run(moves));
         }
         Check.due("17 changes", t.count(6), 4);
-        StepperTable full = full();
+        StepperTable full = Tables.full();
         Check.due("17 sixteen", full.run(16), 16);
-        StepperTable losing = losing();
+        StepperTable losing = Tables.losing();
         losing.queue(0, 0, 0);
         Check.due("17 undetected", losing.run(1), 1);
         Check.due("17 lost", losing.axis(0, 9), 3);
         Check.due("17 no alarm", losing.count(3), 0);
-        StepperTable stopping = small();
+        StepperTable stopping = Tables.small();
         stopping.setDetection(true);
         stopping.queue(90, 0, 0);
         stopping.queue(95, 10, 20);
@@ -477,7 +441,7 @@ public final class PromisesTest {
     }
 
     private static void compensation() {
-        StepperTable t = small();
+        StepperTable t = Tables.small();
         t.setCompensation(true);
         t.queue(10, 10, 0);
         t.run(1);
@@ -523,13 +487,13 @@ public final class PromisesTest {
     }
 
     private static void promise18() {
-        StepperTable t = alarmed();
+        StepperTable t = Tables.alarmed();
         Check.due("18 alarm", t.reset(), 1);
         Check.due("18 none", t.count(3), 0);
         Check.due("18 no axis is homed", t.count(5), 0);
         Check.due("18 none before", t.reset(), 0);
         Check.due("18 changes", t.count(6), 5);
-        StepperTable queued = smallWithQueue();
+        StepperTable queued = Tables.smallWithQueue();
         Check.due("18 without an alarm", queued.reset(), 0);
         Check.due("18 queue", queued.count(4), 0);
         Check.due("18 homed", queued.count(5), 0);
@@ -538,7 +502,7 @@ public final class PromisesTest {
     }
 
     private static void promises19And20() {
-        StepperTable t = small();
+        StepperTable t = Tables.small();
         Check.due("19 before", t.setCompensation(false), false);
         Check.due("19 on", t.setCompensation(true), false);
         Check.due("19 again", t.setCompensation(true), true);
@@ -555,7 +519,7 @@ public final class PromisesTest {
     }
 
     private static void promise21() {
-        StepperTable t = small();
+        StepperTable t = Tables.small();
         Check.due("21 open", t.setStuck(0, 1), 0);
         Check.due("21 closed", t.setStuck(0, 2), 1);
         Check.due("21 not", t.setStuck(0, 0), 2);
@@ -569,7 +533,7 @@ public final class PromisesTest {
     }
 
     private static void promise22() {
-        StepperTable t = smallWithQueue();
+        StepperTable t = Tables.smallWithQueue();
         Check.due("22 before", t.setStart(1), 100);
         Check.due("22 planned anew", t.move(0, 3), 1);
         Check.due("22 then", t.setStart(1000), 1);
@@ -587,18 +551,18 @@ public final class PromisesTest {
     }
 
     private static void promise23() {
-        StepperTable t = smallWithQueue();
+        StepperTable t = Tables.smallWithQueue();
         int[] due = {10, 5, 0, 20, 10, 0};
         for (int i = 0; i < 6; i++) {
             Check.due("23 target", t.target(i / 3, i % 3), due[i]);
         }
         noMove("23", t, move -> t.target(move, 0));
         noAxis("23", axis -> t.target(0, axis));
-        Check.dueThrow("23 empty", NO_INDEX, () -> small().target(0, 0));
+        Check.dueThrow("23 empty", NO_INDEX, () -> Tables.small().target(0, 0));
     }
 
     private static void promise24() {
-        StepperTable t = smallWithQueue();
+        StepperTable t = Tables.smallWithQueue();
         int[][] due = {{10, 1000, 100, 100, 1000, 1000, 1, 1}, {10, 1000, 100, 1000, 100, 1000, 1, 0}};
         for (int what = 0; what <= 7; what++) {
             Check.due("24 first " + what, t.move(0, what), due[0][what]);
@@ -654,7 +618,7 @@ public final class PromisesTest {
     }
 
     private static void promise25() {
-        StepperTable t = small();
+        StepperTable t = Tables.small();
         t.queue(10, 5, 0);
         int[] due = {100, 200, 300, 400, 500, 500, 400, 300, 200, 100};
         for (int step = 0; step < 10; step++) {
@@ -669,7 +633,7 @@ public final class PromisesTest {
     }
 
     private static void promise26() {
-        StepperTable t = small();
+        StepperTable t = Tables.small();
         t.queue(10, 5, 0);
         int[] due = {0, 1, 1, 2, 2, 3, 3, 4, 4, 5, 5};
         for (int steps = 0; steps <= 10; steps++) {
@@ -689,7 +653,7 @@ public final class PromisesTest {
     }
 
     private static void promise27() {
-        StepperTable t = small();
+        StepperTable t = Tables.small();
         t.queue(10, 5, 0);
         t.queue(13, 6, 0);
         t.queue(14, 6, 0);
@@ -717,18 +681,18 @@ public final class PromisesTest {
         Check.due("28 x stays homed", t.axis(0, 11), 1);
         Check.due("28 changes", t.count(6), 3);
         Check.dueThrow("28 an alarm", NO_STATE, t::homeAll);
-        Check.dueThrow("28 a queue", NO_STATE, () -> smallWithQueue().homeAll());
+        Check.dueThrow("28 a queue", NO_STATE, () -> Tables.smallWithQueue().homeAll());
         Check.due("28 nothing changed", t.count(6), 3);
     }
 
     private static void promise29() {
-        StepperTable t = smallWithQueue();
+        StepperTable t = Tables.smallWithQueue();
         Check.due("29 two", t.runAll(), 2);
         Check.due("29 none", t.runAll(), 0);
         Check.due("29 changes", t.count(6), 5);
         Check.due("29 time", t.time(), 670000L + 58576);
         Check.due("29 not homed", new StepperTable().runAll(), 0);
-        StepperTable losing = losing();
+        StepperTable losing = Tables.losing();
         losing.setDetection(true);
         losing.insert(0, 1, 0, 0);
         losing.queue(1, 0, 0);
@@ -739,7 +703,7 @@ public final class PromisesTest {
     }
 
     private static void promise30() {
-        StepperTable t = smallWithQueue();
+        StepperTable t = Tables.smallWithQueue();
         Check.due("30 between", t.insert(1, 15, 7, 3), 3);
         Check.due("30 its number", t.target(1, 2), 3);
         Check.due("30 behind it", t.target(2, 0), 20);
@@ -757,15 +721,15 @@ public final class PromisesTest {
             Check.dueThrow("30 point", NO_ARGUMENT, () -> t.insert(0, p[0], p[1], p[2]));
         }
         Check.due("30 nothing changed", t.count(6), 6);
-        Check.dueThrow("30 full", NO_STATE, () -> full().insert(3, 50, 0, 0));
-        Check.dueThrow("30 full, out of range", NO_ARGUMENT, () -> full().insert(17, 50, 0, 0));
-        Check.dueThrow("30 alarm", NO_STATE, () -> alarmed().insert(0, 1, 1, 1));
-        Check.dueThrow("30 alarm, out of range", NO_ARGUMENT, () -> alarmed().insert(1, 1, 1, 1));
+        Check.dueThrow("30 full", NO_STATE, () -> Tables.full().insert(3, 50, 0, 0));
+        Check.dueThrow("30 full, out of range", NO_ARGUMENT, () -> Tables.full().insert(17, 50, 0, 0));
+        Check.dueThrow("30 alarm", NO_STATE, () -> Tables.alarmed().insert(0, 1, 1, 1));
+        Check.dueThrow("30 alarm, out of range", NO_ARGUMENT, () -> Tables.alarmed().insert(1, 1, 1, 1));
         Check.dueThrow("30 not homed", NO_STATE, () -> new StepperTable().insert(0, 1, 1, 1));
     }
 
     private static void promise31() {
-        StepperTable t = smallWithQueue();
+        StepperTable t = Tables.smallWithQueue();
         t.queue(10, 5, 0);
         t.queue(0, 0, 0);
         Check.dueThrow("31 the same point twice then", NO_STATE, () -> t.dropTarget(1));
@@ -777,11 +741,11 @@ public final class PromisesTest {
         t.queue(0, 0, 0);
         Check.dueThrow("31 where the axes are", NO_STATE, () -> t.dropTarget(0));
         noMove("31", t, t::dropTarget);
-        Check.dueThrow("31 empty", NO_INDEX, () -> small().dropTarget(0));
+        Check.dueThrow("31 empty", NO_INDEX, () -> Tables.small().dropTarget(0));
     }
 
     private static void promise32() {
-        StepperTable t = smallWithQueue();
+        StepperTable t = Tables.smallWithQueue();
         t.queue(30, 15, 0);
         Check.due("32 itself", t.swapTargets(1, 1), 2);
         Check.due("32 a change", t.count(6), 5);
@@ -799,7 +763,7 @@ public final class PromisesTest {
     }
 
     private static void promise33() {
-        StepperTable t = small();
+        StepperTable t = Tables.small();
         t.queue(10, 5, 0);
         t.queue(3, 4, 1);
         Check.due("33 begin", t.pointAt(0, 0, 0), 0);
@@ -817,7 +781,7 @@ public final class PromisesTest {
     }
 
     private static void promise34() {
-        StepperTable t = smallWithQueue();
+        StepperTable t = Tables.smallWithQueue();
         Check.due("34 up", t.rampSteps(0, true), 9);
         Check.due("34 not down", t.rampSteps(0, false), 0);
         Check.due("34 not up", t.rampSteps(1, true), 0);
@@ -829,7 +793,7 @@ public final class PromisesTest {
     }
 
     private static void promise35() {
-        StepperTable t = small();
+        StepperTable t = Tables.small();
         t.queue(10, 5, 0);
         Check.due("35 a tie", t.slowest(0), 0);
         t.queue(20, 11, 0);
@@ -842,7 +806,7 @@ public final class PromisesTest {
     }
 
     private static void promise36() {
-        StepperTable t = small();
+        StepperTable t = Tables.small();
         Check.due("36 empty", t.straightPairs(), 0);
         t.queue(10, 5, 0);
         Check.due("36 one", t.straightPairs(), 0);
@@ -857,7 +821,7 @@ public final class PromisesTest {
     }
 
     private static void promise37() {
-        StepperTable t = small();
+        StepperTable t = Tables.small();
         t.queue(10, 5, 2);
         t.runAll();
         Check.due("37 where it is", t.bound(0, true), 10);
@@ -874,8 +838,8 @@ public final class PromisesTest {
     }
 
     private static void promise38() {
-        StepperTable t = smallWithQueue();
-        Check.due("38 none", small().nearest(0, 0, 0), -1);
+        StepperTable t = Tables.smallWithQueue();
+        Check.due("38 none", Tables.small().nearest(0, 0, 0), -1);
         Check.due("38 first", t.nearest(12, 7, 0), 0);
         Check.due("38 second", t.nearest(18, 9, 0), 1);
         Check.due("38 a tie", t.nearest(15, 7, 3), 0);
@@ -888,7 +852,7 @@ public final class PromisesTest {
     }
 
     private static void promise39() {
-        StepperTable t = small();
+        StepperTable t = Tables.small();
         t.queue(30, 0, 0);
         t.queue(6, 0, 0);
         t.queue(14, 0, 0);
@@ -904,11 +868,11 @@ public final class PromisesTest {
         t.run(3);
         Check.due("39 begins where the axes are", t.nearestOrder(0), 1);
         Check.due("39 then", t.nearestOrder(1), 0);
-        Check.dueThrow("39 empty", NO_ELEMENT, () -> small().nearestOrder(0));
+        Check.dueThrow("39 empty", NO_ELEMENT, () -> Tables.small().nearestOrder(0));
     }
 
     private static void promise40() {
-        StepperTable t = smallWithQueue();
+        StepperTable t = Tables.smallWithQueue();
         Check.due("40 first", t.lastsUntil(0), 29288L);
         Check.due("40 second", t.lastsUntil(1), 58576L);
         t.queue(19, 10, 0);
@@ -925,7 +889,7 @@ public final class PromisesTest {
     }
 
     private static void promise41() {
-        StepperTable t = small();
+        StepperTable t = Tables.small();
         t.setCompensation(true);
         t.queue(2, 1, 0);
         t.queue(1, 1, 0);
@@ -938,7 +902,7 @@ public final class PromisesTest {
         Check.due("41 y ahead", t.whereAt(1, 9999), 0);
         Check.due("41 y", t.whereAt(1, 10000), 1);
         Check.due("41 z", t.whereAt(2, 60000), 0);
-        Check.due("41 empty queue", small().whereAt(0, 5), 0);
+        Check.due("41 empty queue", Tables.small().whereAt(0, 5), 0);
         noAxis("41", axis -> t.whereAt(axis, -1));
         Check.dueThrow("41 negative", NO_ARGUMENT, () -> new StepperTable().whereAt(0, -1));
         Check.dueThrow("41 least", NO_ARGUMENT, () -> t.whereAt(0, Integer.MIN_VALUE));
@@ -946,7 +910,7 @@ public final class PromisesTest {
     }
 
     private static void promise42() {
-        StepperTable t = smallWithQueue();
+        StepperTable t = Tables.smallWithQueue();
         Check.due("42 x", t.trueBehind(0), 28);
         Check.due("42 y", t.trueBehind(1), 15);
         t.queue(18, 10, 0);
@@ -954,7 +918,7 @@ public final class PromisesTest {
         t.setCompensation(true);
         Check.due("42 compensated", t.trueBehind(0), 26);
         Check.due("42 nothing moves", t.axis(0, 6), 8);
-        StepperTable losing = losing();
+        StepperTable losing = Tables.losing();
         losing.setDetection(true);
         losing.queue(90, 0, 0);
         Check.due("42 detection is off", losing.trueBehind(0), 98);
@@ -964,7 +928,7 @@ public final class PromisesTest {
     }
 
     private static void promises43And44() {
-        StepperTable t = small();
+        StepperTable t = Tables.small();
         Check.due("44 empty", t.queueLength(), 0.0);
         t.queue(3, 4, 0);
         t.queue(4, 4, 0);
@@ -983,7 +947,7 @@ public final class PromisesTest {
     }
 
     private static void promise45() {
-        StepperTable t = smallWithQueue();
+        StepperTable t = Tables.smallWithQueue();
         Check.due("45 ramp", t.meanSpeed(0), 10000000.0 / 29288.0);
         t.setCompensation(true);
         t.queue(19, 10, 0);
@@ -996,17 +960,17 @@ public final class PromisesTest {
     }
 
     private static void promise46() {
-        StepperTable t = smallWithQueue();
+        StepperTable t = Tables.smallWithQueue();
         t.queue(5, 10, 3);
         Check.due("46 x", t.travel(0), 35);
         Check.due("46 y", t.travel(1), 10);
         Check.due("46 z", t.travel(2), 3);
-        Check.due("46 empty", small().travel(0), 0);
+        Check.due("46 empty", Tables.small().travel(0), 0);
         noAxis("46", t::travel);
     }
 
     private static void promise47() {
-        StepperTable t = smallWithQueue();
+        StepperTable t = Tables.smallWithQueue();
         Check.due("47 none", t.turnsAhead(0), 0);
         t.queue(19, 10, 0);
         t.queue(19, 9, 0);
@@ -1023,7 +987,7 @@ public final class PromisesTest {
     }
 
     private static void promise48() {
-        StepperTable t = small();
+        StepperTable t = Tables.small();
         Check.due("48 empty", t.queueTime(), 0L);
         t.queue(10, 5, 0);
         Check.due("48 one", t.queueTime(), 45666L);
@@ -1032,7 +996,7 @@ public final class PromisesTest {
         t.queue(19, 10, 0);
         t.setCompensation(true);
         Check.due("48 compensation", t.queueTime(), 98576L);
-        StepperTable losing = losing();
+        StepperTable losing = Tables.losing();
         long whole = losing.queueTime();
         losing.setDetection(true);
         Check.due("48 behind lost steps", losing.queueTime(), whole);
@@ -1049,7 +1013,7 @@ public final class PromisesTest {
     }
 
     private static void promise49() {
-        StepperTable t = small();
+        StepperTable t = Tables.small();
         Check.due("49 there", t.straightTime(0, 0, 0), 0L);
         Check.due("49 one step", t.straightTime(1, 0, 0), 10000L);
         Check.due("49 ramp", t.straightTime(10, 5, 0), 45666L);
@@ -1070,21 +1034,21 @@ public final class PromisesTest {
     }
 
     private static void promise50() {
-        StepperTable t = losing();
+        StepperTable t = Tables.losing();
         Check.due("50 three", t.wouldLose(), 3);
         t.setDetection(true);
         Check.due("50 detection is off", t.wouldLose(), 3);
         t.queue(0, 50, 20);
         Check.due("50 of all axes", t.wouldLose(), 3 + 5 + 8);
         Check.due("50 nothing is lost", t.axis(0, 9), 0);
-        Check.due("50 none", smallWithQueue().wouldLose(), 0);
+        Check.due("50 none", Tables.smallWithQueue().wouldLose(), 0);
         StepperTable lost = new StepperTable();
         lost.jog(0, -7);
         Check.due("50 earlier ones do not count", lost.wouldLose(), 0);
     }
 
     private static void promise51() {
-        StepperTable t = losing();
+        StepperTable t = Tables.losing();
         Check.due("51 lost", t.wouldErr(0), -3);
         t.setDetection(true);
         Check.due("51 detection is off", t.wouldErr(0), -3);
@@ -1110,28 +1074,28 @@ public final class PromisesTest {
         Check.due("52 never open", t.wouldHome(1), -1);
         t.home(1);
         Check.due("52 with an alarm", t.wouldHome(0), 9);
-        Check.due("52 with a queue", smallWithQueue().wouldHome(0), 12);
+        Check.due("52 with a queue", Tables.smallWithQueue().wouldHome(0), 12);
         noAxis("52", t::wouldHome);
     }
 
     private static void promise53() {
-        Check.due("53 empty", small().bestFirst(), -1);
-        Check.due("53 as it is", smallWithQueue().bestFirst(), 0);
-        StepperTable t = small();
+        Check.due("53 empty", Tables.small().bestFirst(), -1);
+        Check.due("53 as it is", Tables.smallWithQueue().bestFirst(), 0);
+        StepperTable t = Tables.small();
         t.queue(90, 0, 0);
         t.queue(10, 0, 0);
         t.queue(20, 0, 0);
         Check.due("53 the near one", t.bestFirst(), 1);
-        StepperTable there = small();
+        StepperTable there = Tables.small();
         there.queue(10, 0, 0);
         there.queue(0, 0, 0);
         Check.due("53 where the axes are is left out", there.bestFirst(), 1);
-        StepperTable again = small();
+        StepperTable again = Tables.small();
         again.queue(50, 0, 0);
         again.queue(20, 0, 0);
         again.queue(50, 0, 0);
         Check.due("53 left out among the others", again.bestFirst(), 1);
-        StepperTable shorter = small();
+        StepperTable shorter = Tables.small();
         shorter.queue(5, 0, 0);
         shorter.queue(6, 0, 0);
         shorter.queue(5, 0, 0);
@@ -1144,9 +1108,9 @@ public final class PromisesTest {
     }
 
     private static void promise54() {
-        Check.dueThrow("54 empty", NO_ELEMENT, () -> small().bestStart());
-        Check.due("54 fast", smallWithQueue().bestStart(), 1000);
-        StepperTable t = small();
+        Check.dueThrow("54 empty", NO_ELEMENT, () -> Tables.small().bestStart());
+        Check.due("54 fast", Tables.smallWithQueue().bestStart(), 1000);
+        StepperTable t = Tables.small();
         t.queue(0, 0, 9);
         Check.due("54 a tie beyond the top speed", t.bestStart(), 250);
         Check.due("54 nothing changed", t.count(0), 100);
@@ -1164,7 +1128,7 @@ public final class PromisesTest {
     }
 
     private static void promise55() {
-        StepperTable t = small();
+        StepperTable t = Tables.small();
         Check.due("55 forward", t.slackLeft(0, true), 1);
         Check.due("55 backward", t.slackLeft(0, false), 4);
         t.jog(0, -2);
@@ -1183,7 +1147,7 @@ public final class PromisesTest {
     }
 
     private static void promise56() {
-        StepperTable t = small();
+        StepperTable t = Tables.small();
         int[] homed = {6, 3, 0, 1, 0, 0};
         for (int what = 0; what <= 5; what++) {
             Check.due("56 homed " + what, t.account(0, what), homed[what]);
@@ -1206,7 +1170,7 @@ public final class PromisesTest {
         for (int what = 0; what <= 5; what++) {
             Check.due("56 failed " + what, t.account(0, what), failed[what]);
         }
-        StepperTable stopped = losing();
+        StepperTable stopped = Tables.losing();
         stopped.setDetection(true);
         stopped.queue(0, 1, 0);
         stopped.runAll();
@@ -1227,9 +1191,9 @@ public final class PromisesTest {
     }
 
     private static void promise57() {
-        StepperTable t = smallWithQueue();
+        StepperTable t = Tables.smallWithQueue();
         Check.due("57 none", t.meanDuration(), 0.0);
-        StepperTable one = small();
+        StepperTable one = Tables.small();
         one.queue(1, 0, 0);
         one.runAll();
         Check.due("57 one", one.meanDuration(), 10000.0);
@@ -1243,7 +1207,7 @@ public final class PromisesTest {
         t.jog(0, 5);
         t.homeAll();
         Check.due("57 without jogging and homing", t.meanDuration(), 39288.0 / 11.0);
-        StepperTable losing = losing();
+        StepperTable losing = Tables.losing();
         losing.setDetection(true);
         long before = losing.time();
         losing.runAll();
@@ -1262,7 +1226,7 @@ public final class PromisesTest {
     }
 
     private static void promises59And60() {
-        StepperTable t = small();
+        StepperTable t = Tables.small();
         Check.due("60 nothing", t.outputByte(0), -1);
         Check.due("59 empty", t.printQueue(), 1);
         Check.due("60 a dot", Tables.output(t), ".");
@@ -1291,7 +1255,7 @@ public final class PromisesTest {
     }
 
     private static void promise61() {
-        StepperTable t = small();
+        StepperTable t = Tables.small();
         Check.due("61 homing", t.undo(), 0);
         Check.due("61 not homed", t.count(5), 0);
         Check.due("61 place", t.axis(0, 6), 8);
@@ -1337,7 +1301,7 @@ public final class PromisesTest {
     }
 
     private static void promises62And63() {
-        StepperTable t = smallWithQueue();
+        StepperTable t = Tables.smallWithQueue();
         Check.dueThrow("63 nothing is saved", NO_STATE, t::restoreState);
         t.setStuck(1, 2);
         Check.due("62 two", t.saveState(), 2);
