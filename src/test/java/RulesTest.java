@@ -74,6 +74,11 @@ public final class RulesTest {
         }
         Check.due("face", found, new TreeSet<>(Arrays.asList(FACE)));
         Check.due("methods", FACE.length, 62);
+        for (Class<?> inside : StepperTable.class.getDeclaredClasses()) {
+            for (Method method : inside.getDeclaredMethods()) {
+                privateNames.add(method.getName());
+            }
+        }
         privateNames.retainAll(publicNames);
         Check.due("private methods with public names", privateNames.toString(), "[]");
         String[] constants = {"NO_ERROR", "SYNTAX", "OUT_OF_RANGE", "MISPLACED"};
